@@ -66,7 +66,7 @@ public final class SeedExchange {
         if (!isCell(cell)) {
             return BAD;
         }
-        shelf.standing.putNumber(cell, v);
+        shelf.standing.put(cell, NUMBER, v, NONE, NONE);
         return tellAnew(cell);
     }
 
@@ -74,7 +74,7 @@ public final class SeedExchange {
         if (!isCell(cell) || !isKind(kind) || !isGrower(grower) || grams < 0 || grams > MOST_GRAMS) {
             return BAD;
         }
-        shelf.standing.putLot(cell, kind, grower, grams);
+        shelf.standing.put(cell, LOT, grams, kind, grower);
         return tellAnew(cell);
     }
 
@@ -82,7 +82,7 @@ public final class SeedExchange {
         if (!isCell(cell)) {
             return BAD;
         }
-        shelf.standing.putNothing(cell);
+        shelf.standing.put(cell, NOTHING, 0, NONE, NONE);
         return tellAnew(cell);
     }
 
@@ -503,11 +503,12 @@ public final class SeedExchange {
         if (attempt.actKind[i] == 0) {
             return x + b;
         }
-        int fault = shelf.standing.faultAs(NUMBER, b);
-        if (fault == FINE) {
-            fault = faultOfPart(x, shelf.standing.amount[b]);
+        if (shelf.standing.holding[b] != NUMBER) {
+            return -1 - (shelf.standing.holding[b] == NOTHING ? NULL : CAST);
         }
-        return fault == FINE ? x / shelf.standing.amount[b] : -1 - fault;
+        long by = shelf.standing.amount[b];
+        int fault = faultOfPart(x, by);
+        return fault == FINE ? x / by : -1 - fault;
     }
 
     /** What forty cells hold. */
@@ -524,32 +525,11 @@ public final class SeedExchange {
             }
         }
 
-        void putNothing(int c) {
-            put(c, NOTHING, 0, NONE, NONE);
-        }
-
-        void putNumber(int c, long v) {
-            put(c, NUMBER, v, NONE, NONE);
-        }
-
-        void putLot(int c, int kindOf, int growerOf, long grams) {
-            put(c, LOT, grams, kindOf, growerOf);
-        }
-
-        private void put(int c, int holds, long much, int kindOf, int growerOf) {
+        void put(int c, int holds, long much, int kindOf, int growerOf) {
             holding[c] = holds;
             amount[c] = much;
             kind[c] = kindOf;
             grower[c] = growerOf;
-        }
-
-        void exchange(int a, int b) {
-            int holds = holding[a];
-            long much = amount[a];
-            int kindOf = kind[a];
-            int growerOf = grower[a];
-            put(a, holding[b], amount[b], kind[b], grower[b]);
-            put(b, holds, much, kindOf, growerOf);
         }
 
         void takeAll(Cells from) {
@@ -565,14 +545,6 @@ public final class SeedExchange {
                     put(c, from.holding[c], from.amount[c], from.kind[c], from.grower[c]);
                 }
             }
-        }
-
-        /** FINE, or the failure of looking at a cell as a NUMBER or as a LOT. */
-        int faultAs(int wanted, int c) {
-            if (holding[c] == NOTHING) {
-                return NULL;
-            }
-            return holding[c] == wanted ? FINE : CAST;
         }
 
         long gramsOfKind(int of) {
@@ -785,6 +757,7 @@ public final class SeedExchange {
     /** How a try stood ahead of a part that may be undone. */
     private static final class Mark {
         final Cells own = new Cells();
+        long x;
         long written;
         int answerCount;
         int actCount;
@@ -847,64 +820,47 @@ public final class SeedExchange {
                 }
                 steps++;
                 int i = trade * STEPS_OF_A_TRADE + at;
-                if (trades.op[i] == SKIP) {
+                int op = trades.op[i];
+                if (op == SKIP) {
                     at += x == 0 ? trades.a[i] : 0;
+                } else if (op == DO || op == CATCH || op == OR) {
+                    ended = doPart(op, trades.a[i], trades.b[i], depth);
                 } else {
-                    ended = doStep(trades.op[i], trades.a[i], trades.b[i], depth);
+                    ended = doStep(op, trades.a[i], trades.b[i]);
                 }
             }
             return ended;
         }
 
-        private int doStep(int op, int a, int b, int depth) {
-            switch (op) {
-                case PUT: return become(a);
-                case READ: case ADD: case PART: case BELOW: return reckon(op, a);
-                case WRITE: return write(a);
-                case MORE: return add(a);
-                case TIMES: return multiply(a);
-                case AT: return isCell(x) ? reckon(READ, (int) x) : INDEX;
-                case GRAMS: return weigh(a);
-                case GIVE: return give(a, b);
-                case SWAP: return swap(a, b);
-                case SAY: return say();
-                case FAIL: return fail(a);
-                case WAIT: return WAITS;
-                case DO: return doTrade(a, depth + 1);
-                case CATCH: return doCaught(a, depth);
-                case OR: return doEither(a, b, depth);
-                case AFTER: return putOff(a, b);
-                default: return FINE;
+        private int doPart(int op, int trade, int other, int depth) {
+            if (op == DO) {
+                return doTrade(trade, depth + 1);
             }
-        }
-
-        private int doCaught(int trade, int depth) {
             Mark ahead = marks[depth];
             mark(ahead);
             int ended = doTrade(trade, depth + 1);
-            if (ended == FINE || ended == WAITS || ended == SPENT) {
+            if (!isUndone(op, ended)) {
                 return ended;
             }
             undo(ahead);
-            x = -1 - ended;
-            return FINE;
-        }
-
-        private int doEither(int trade, int other, int depth) {
-            Mark ahead = marks[depth];
-            mark(ahead);
-            long xAhead = x;
-            int ended = doTrade(trade, depth + 1);
-            if (ended != WAITS && ended != TOLD) {
-                return ended;
+            if (op == CATCH) {
+                x = -1 - ended;
+                return FINE;
             }
-            undo(ahead);
-            x = xAhead;
+            x = ahead.x;
             return doTrade(other, depth + 1);
+        }
+
+        private static boolean isUndone(int op, int ended) {
+            if (op == CATCH) {
+                return ended != FINE && ended != WAITS && ended != SPENT;
+            }
+            return ended == WAITS || ended == TOLD;
         }
 
         private void mark(Mark ahead) {
             ahead.own.takeAll(own);
+            ahead.x = x;
             ahead.written = written;
             ahead.answerCount = answerCount;
             ahead.actCount = actCount;
@@ -917,13 +873,29 @@ public final class SeedExchange {
             actCount = ahead.actCount;
         }
 
-        private int become(long v) {
-            x = v;
-            return FINE;
+        private int doStep(int op, int a, int b) {
+            switch (op) {
+                case PUT:
+                    x = a;
+                    return FINE;
+                case READ: case ADD: case PART: case BELOW: return reckon(op, a);
+                case WRITE: return write(a);
+                case MORE: return add(a);
+                case TIMES: return multiply(a);
+                case AT: return isCell(x) ? reckon(READ, (int) x) : INDEX;
+                case GRAMS: return weigh(a);
+                case GIVE: return give(a, b);
+                case SWAP: return swap(a, b);
+                case SAY: return say();
+                case FAIL: return fail(a);
+                case WAIT: return WAITS;
+                case AFTER: return putOff(a, b);
+                default: return FINE;
+            }
         }
 
         private int write(int cell) {
-            own.putNumber(cell, x);
+            own.put(cell, NUMBER, x, NONE, NONE);
             written |= 1L << cell;
             return FINE;
         }
@@ -931,7 +903,10 @@ public final class SeedExchange {
         /** A cell counts as read even if what it holds is not what was looked for. */
         private int look(int cell, int wanted) {
             readCells |= (1L << cell) & ~written;
-            return own.faultAs(wanted, cell);
+            if (own.holding[cell] == wanted) {
+                return FINE;
+            }
+            return own.holding[cell] == NOTHING ? NULL : CAST;
         }
 
         private int reckon(int op, int cell) {
@@ -942,36 +917,48 @@ public final class SeedExchange {
             long n = own.amount[cell];
             switch (op) {
                 case ADD: return add(n);
-                case PART: return divide(n);
-                case BELOW: return become(x < n ? 1 : 0);
-                default: return become(n);
+                case PART:
+                    fault = faultOfPart(x, n);
+                    x = fault == FINE ? x / n : x;
+                    return fault;
+                case BELOW:
+                    x = x < n ? 1 : 0;
+                    return FINE;
+                default:
+                    x = n;
+                    return FINE;
             }
         }
 
         private int add(long n) {
             long sum = x + n;
             // A sum is beyond a long if its sign is neither that of x nor that of n.
-            return ((x ^ sum) & (n ^ sum)) < 0 ? SUM : become(sum);
+            if (((x ^ sum) & (n ^ sum)) < 0) {
+                return SUM;
+            }
+            x = sum;
+            return FINE;
         }
 
         private int multiply(int a) {
-            if (a == 0) {
-                return become(0);
-            }
             long product = x * a;
-            // The test by division is blind to the one product that division itself wraps.
-            boolean beyond = a == -1 ? x == Long.MIN_VALUE : product / a != x;
-            return beyond ? SUM : become(product);
-        }
-
-        private int divide(long by) {
-            int fault = faultOfPart(x, by);
-            return fault == FINE ? become(x / by) : fault;
+            if (a != 0 && a != -1 && product / a != x) {
+                return SUM;
+            }
+            // Division would wrap just as this product does, and so could not tell it.
+            if (a == -1 && x == Long.MIN_VALUE) {
+                return SUM;
+            }
+            x = product;
+            return FINE;
         }
 
         private int weigh(int cell) {
             int fault = look(cell, LOT);
-            return fault == FINE ? become(own.amount[cell]) : fault;
+            if (fault == FINE) {
+                x = own.amount[cell];
+            }
+            return fault;
         }
 
         private int give(int from, int to) {
@@ -997,7 +984,12 @@ public final class SeedExchange {
         private int swap(int a, int b) {
             long both = (1L << a) | (1L << b);
             readCells |= both & ~written;
-            own.exchange(a, b);
+            int holding = own.holding[a];
+            long amount = own.amount[a];
+            int kind = own.kind[a];
+            int grower = own.grower[a];
+            own.put(a, own.holding[b], own.amount[b], own.kind[b], own.grower[b]);
+            own.put(b, holding, amount, kind, grower);
             written |= both;
             return FINE;
         }

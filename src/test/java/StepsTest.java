@@ -70,7 +70,9 @@ public final class StepsTest {
         due.is("times -2", reckoned(MAX / 2 + 1, Ops.READ, 0, 0, Ops.TIMES, -2, 0), MIN);
         due.is("times the least int", failed(1L << 33, Ops.READ, 0, 0, Ops.TIMES, Integer.MIN_VALUE, 0), Ops.SUM);
         due.is("times the least int", reckoned(1L << 32, Ops.READ, 0, 0, Ops.TIMES, Integer.MIN_VALUE, 0), MIN);
-        due.is("MIN by 1", reckoned(1, Ops.PUT, 7, 0, Ops.PART, 0, 0), 7);
+        due.is("by -1", reckoned(-1, Ops.PUT, 7, 0, Ops.PART, 0, 0), -7);
+        due.is("by itself", reckoned(MIN, Ops.READ, 0, 0, Ops.PART, 0, 0), 1);
+        due.is("by MIN", reckoned(MIN, Ops.PUT, 7, 0, Ops.PART, 0, 0), 0);
         due.is("by 0", failed(0, Ops.PUT, 7, 0, Ops.PART, 0, 0), Ops.ZERO);
         SeedExchange x = new SeedExchange();
         x.number(0, MIN);

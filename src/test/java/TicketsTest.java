@@ -48,6 +48,7 @@ public final class TicketsTest {
         due.is("run", x.run(100), 20);
         due.is("rounds till none is ready", x.count(4), 20);
         due.is("turns", x.ticket(19, 2), 1);
+        due.is("order", x.order(0), 0);
         due.is("order", x.order(19), 19);
         due.is("effects", x.count(3), 20);
     }
@@ -421,7 +422,8 @@ public final class TicketsTest {
         x.submit(1);
         x.submit(2);
         x.submit(0);
-        x.run(3);
+        x.run(4);
+        due.is("order", x.order(1), 3);
         due.is("digest", x.digest(), digestOf(x));
         due.is("a digest changes nothing", x.digest(), digestOf(x));
     }
