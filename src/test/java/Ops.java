@@ -19,6 +19,18 @@ final class Ops {
         }
     }
 
+    /** A trade has these steps and no others. */
+    static void retell(SeedExchange x, int trade, int... rows) {
+        x.drop(trade);
+        steps(x, trade, rows);
+    }
+
+    /** Trade 0 has these steps and no others, and is played: the ticket's number. */
+    static int playSteps(SeedExchange x, int... rows) {
+        retell(x, 0, rows);
+        return play(x, 0);
+    }
+
     /** Submits a ticket of a trade and plays one round: the ticket's number. */
     static int play(SeedExchange x, int trade) {
         int t = x.submit(trade);

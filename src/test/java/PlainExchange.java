@@ -591,4 +591,28 @@ final class PlainExchange {
         int[] all = {tickets.size(), ready, waiting, effects.size(), rounds, tries, notes.size(), rules.size()};
         return in(what, 0, 7) ? all[what] : BAD;
     }
+
+    long digest() {
+        List<Long> all = new ArrayList<>();
+        for (int c = 0; c < 40; c++) {
+            all.addAll(List.of((long) holds(c), value(c)));
+            for (int what = 0; what < 4; what++) {
+                all.add((long) cell(c, what));
+            }
+        }
+        for (int t = 0; t < tickets.size(); t++) {
+            for (int what = 0; what < 6; what++) {
+                all.add((long) ticket(t, what));
+            }
+            for (int i = 0; i < 8; i++) {
+                all.add(answer(t, i));
+            }
+        }
+        effects.forEach(t -> all.add((long) t));
+        BigInteger h = BigInteger.valueOf(17);
+        for (long v : all) {
+            h = h.multiply(BigInteger.valueOf(31)).add(BigInteger.valueOf(v));
+        }
+        return h.longValue();
+    }
 }

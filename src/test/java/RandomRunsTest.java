@@ -2,7 +2,7 @@ import java.util.Random;
 
 /** Runs of random calls, each answered by SeedExchange and by PlainExchange alike. */
 public final class RandomRunsTest {
-    private static final int RUNS = 3000, CALLS = 220, CALL_KINDS = 27;
+    private static final int RUNS = 3000, CALLS = 220, CALL_KINDS = 27, MOST_CALLS = 512;
     private static final int[] FAR = {Integer.MIN_VALUE, Integer.MAX_VALUE, -2, -1, 8, 16, 20, 24, 25, 40, 41};
     private static final long[] FAR_LONGS = {Long.MIN_VALUE, Long.MAX_VALUE, Long.MIN_VALUE + 1, 1L << 32, -1, 1000000000L};
     private static final Due due = new Due();
@@ -16,6 +16,7 @@ public final class RandomRunsTest {
     private final int cells;
     private final int trades;
     private final String name;
+    private int calls;
 
     private RandomRunsTest(int seed) {
         random = new Random(seed);
@@ -42,6 +43,12 @@ public final class RandomRunsTest {
         }
         due.is("tries were forgotten", cutShort > 20 ? 1 : 0, 1);
         due.end();
+    }
+
+    /** One call of each, answered alike. */
+    private void same(String call, long got, long want) {
+        calls++;
+        due.is(name + call, got, want);
     }
 
     private int wild(int within) {
@@ -74,19 +81,19 @@ public final class RandomRunsTest {
             addRule();
         }
         int w = 1 + random.nextInt(4);
-        due.is(name + "window", x.window(w), plain.window(w));
+        same("window", x.window(w), plain.window(w));
     }
 
     private void tellNumber(int c) {
         long v = number();
-        due.is(name + "number", x.number(c, v), plain.number(c, v));
+        same("number", x.number(c, v), plain.number(c, v));
     }
 
     private void tellLot(int c) {
         int kind = wild(2);
         int grower = wild(8);
         int grams = grams();
-        due.is(name + "lot", x.lot(c, kind, grower, grams), plain.lot(c, kind, grower, grams));
+        same("lot", x.lot(c, kind, grower, grams), plain.lot(c, kind, grower, grams));
     }
 
     private void addStep() {
@@ -106,7 +113,7 @@ public final class RandomRunsTest {
         } else if (op == 15 && random.nextInt(2) == 0) {
             op = 12;
         }
-        due.is(name + "step", x.step(trade, op, a, b), plain.step(trade, op, a, b));
+        same("step", x.step(trade, op, a, b), plain.step(trade, op, a, b));
     }
 
     private void addRule() {
@@ -114,7 +121,7 @@ public final class RandomRunsTest {
         int a = kind < 2 ? wild(cells) : wild(2);
         int b = wild(cells);
         long v = number() - 2;
-        due.is(name + "rule", x.rule(kind, a, b, v), plain.rule(kind, a, b, v));
+        same("rule", x.rule(kind, a, b, v), plain.rule(kind, a, b, v));
     }
 
     private void call() {
@@ -134,12 +141,12 @@ public final class RandomRunsTest {
         switch (which) {
             case 0 -> tellNumber(c);
             case 1 -> tellLot(c);
-            case 2 -> due.is(name + "empty", random.nextInt(3) > 0 ? 0 : x.empty(c) - plain.empty(c), 0);
-            case 3 -> due.is(name + "holds", x.holds(c), plain.holds(c));
-            case 4 -> due.is(name + "value", x.value(c), plain.value(c));
-            case 5 -> due.is(name + "cell", x.cell(c, i), plain.cell(c, i));
-            case 6 -> due.is(name + "history", x.history(c, i), plain.history(c, i));
-            case 7 -> due.is(name + "stock", x.stock(i % 3, c), plain.stock(i % 3, c));
+            case 2 -> emptyNowAndThen(c);
+            case 3 -> same("holds", x.holds(c), plain.holds(c));
+            case 4 -> same("value", x.value(c), plain.value(c));
+            case 5 -> same("cell", x.cell(c, i), plain.cell(c, i));
+            case 6 -> same("history", x.history(c, i), plain.history(c, i));
+            case 7 -> same("stock", x.stock(i % 3, c), plain.stock(i % 3, c));
             case 8 -> addStep();
             default -> tellNumber(c);
         }
@@ -152,21 +159,27 @@ public final class RandomRunsTest {
             case 10 -> dropNowAndThen(trade);
             case 11 -> clashNowAndThen(trade, few);
             case 12 -> ruleNowAndThen();
-            case 13, 14 -> due.is(name + "submit", x.submit(trade), plain.submit(trade));
-            case 15 -> due.is(name + "window", x.window(few), plain.window(few));
+            case 13, 14 -> same("submit", x.submit(trade), plain.submit(trade));
+            case 15 -> same("window", x.window(few), plain.window(few));
             default -> play(few);
+        }
+    }
+
+    private void emptyNowAndThen(int c) {
+        if (random.nextInt(3) == 0) {
+            same("empty", x.empty(c), plain.empty(c));
         }
     }
 
     private void dropNowAndThen(int trade) {
         if (random.nextInt(8) == 0) {
-            due.is(name + "drop", x.drop(trade), plain.drop(trade));
+            same("drop", x.drop(trade), plain.drop(trade));
         }
     }
 
     private void clashNowAndThen(int trade, int many) {
         if (random.nextInt(4) == 0) {
-            due.is(name + "clash", x.clash(trade, many), plain.clash(trade, many));
+            same("clash", x.clash(trade, many), plain.clash(trade, many));
         }
     }
 
@@ -177,8 +190,8 @@ public final class RandomRunsTest {
     }
 
     private void play(int few) {
-        due.is(name + "run", x.run(few), plain.run(few));
-        due.is(name + "tries", x.count(5), plain.count(5));
+        same("run", x.run(few), plain.run(few));
+        same("tries", x.count(5), plain.count(5));
     }
 
     private void callOfTickets(int which) {
@@ -186,68 +199,57 @@ public final class RandomRunsTest {
         int i = wild(7);
         int what = wild(3);
         switch (which) {
-            case 20 -> due.is(name + "ticket", x.ticket(t, i), plain.ticket(t, i));
-            case 21 -> due.is(name + "answer", x.answer(t, i), plain.answer(t, i));
-            case 22 -> due.is(name + "tried", x.tried(t, what), plain.tried(t, what));
-            case 23 -> due.is(name + "way", x.way(t, i, what), plain.way(t, i, what));
-            case 24 -> due.is(name + "read", x.read(t, i), plain.read(t, i));
-            case 25 -> due.is(name + "woken", x.woken(t, what), plain.woken(t, what));
-            case 26 -> due.is(name + "order", x.order(t), plain.order(t));
-            case 27 -> due.is(name + "note", x.note(t, what), plain.note(t, what));
-            case 28 -> due.is(name + "noted", x.noted(t), plain.noted(t));
-            case 29 -> due.is(name + "count", x.count(i), plain.count(i));
+            case 20 -> same("ticket", x.ticket(t, i), plain.ticket(t, i));
+            case 21 -> same("answer", x.answer(t, i), plain.answer(t, i));
+            case 22 -> same("tried", x.tried(t, what), plain.tried(t, what));
+            case 23 -> same("way", x.way(t, i, what), plain.way(t, i, what));
+            case 24 -> same("read", x.read(t, i), plain.read(t, i));
+            case 25 -> same("woken", x.woken(t, what), plain.woken(t, what));
+            case 26 -> same("order", x.order(t), plain.order(t));
+            case 27 -> same("note", x.note(t, what), plain.note(t, what));
+            case 28 -> same("noted", x.noted(t), plain.noted(t));
+            case 29 -> same("count", x.count(i), plain.count(i));
             default -> play(1 + random.nextInt(3));
         }
     }
 
+    /** The digest tells most at once; of the rest as much is asked as an object may be. */
     private void compareAll() {
+        same("digest", x.digest(), plain.digest());
         for (int what = 0; what <= 7; what++) {
-            due.is(name + "count " + what, x.count(what), plain.count(what));
+            same("count " + what, x.count(what), plain.count(what));
         }
-        for (int c = 0; c < 40; c++) {
-            due.is(name + "holds " + c, x.holds(c), plain.holds(c));
-            due.is(name + "value " + c, x.value(c), plain.value(c));
-            for (int what = 0; what <= 3; what++) {
-                due.is(name + "cell " + c + " " + what, x.cell(c, what), plain.cell(c, what));
-            }
-            for (int i = 0; i <= 12; i++) {
-                due.is(name + "history " + c, x.history(c, i), plain.history(c, i));
-            }
+        while (calls < MOST_CALLS) {
+            compareOne();
         }
-        int turns = 0;
-        for (int t = 0; t < x.count(0); t++) {
-            compareTicket(t);
-            turns += x.ticket(t, 2);
-        }
-        for (int i = 0; i <= 41; i++) {
-            due.is(name + "order", x.order(i), plain.order(i));
-            due.is(name + "noted", x.noted(i), plain.noted(i));
-            due.is(name + "note", x.note(i, 0), plain.note(i, 0));
-            due.is(name + "note", x.note(i, 1), plain.note(i, 1));
-        }
-        cutShort += x.count(5) > turns * 2 ? 1 : 0;
+        takeCount();
     }
 
-    private void compareTicket(int t) {
-        for (int what = 0; what <= 6; what++) {
-            due.is(name + "ticket " + t + " " + what, x.ticket(t, what), plain.ticket(t, what));
+    private void compareOne() {
+        int c = random.nextInt(8) == 0 ? random.nextInt(40) : random.nextInt(cells);
+        int t = random.nextInt(Math.max(1, plain.count(0)));
+        int i = random.nextInt(42);
+        int what = random.nextInt(2);
+        switch (random.nextInt(9)) {
+            case 0 -> same("history", x.history(c, i % 14), plain.history(c, i % 14));
+            case 1 -> same("stock", x.stock(what, i % 8), plain.stock(what, i % 8));
+            case 2 -> same("tries", x.ticket(t, 6), plain.ticket(t, 6));
+            case 3 -> same("tried", x.tried(t, i % 4), plain.tried(t, i % 4));
+            case 4 -> same("way", x.way(t, i % 7, what), plain.way(t, i % 7, what));
+            case 5 -> same("read", x.read(t, c), plain.read(t, c));
+            case 6 -> same("woken", x.woken(t, what), plain.woken(t, what));
+            case 7 -> same("note", x.note(i, what), plain.note(i, what));
+            default -> same("noted", x.noted(i), plain.noted(i));
         }
-        for (int i = 0; i <= 8; i++) {
-            due.is(name + "answer " + t, x.answer(t, i), plain.answer(t, i));
+    }
+
+    private void takeCount() {
+        int turns = 0;
+        for (int t = 0; t < plain.count(0); t++) {
+            failures[plain.ticket(t, 3)]++;
+            states[plain.ticket(t, 0)]++;
+            turns += plain.ticket(t, 2);
         }
-        for (int what = 0; what <= 3; what++) {
-            due.is(name + "tried " + t + " " + what, x.tried(t, what), plain.tried(t, what));
-        }
-        for (int i = 0; i <= 6; i++) {
-            due.is(name + "way " + t, x.way(t, i, 0), plain.way(t, i, 0));
-            due.is(name + "way " + t, x.way(t, i, 1), plain.way(t, i, 1));
-        }
-        for (int c = 0; c < 40; c++) {
-            due.is(name + "read " + t, x.read(t, c), plain.read(t, c));
-        }
-        due.is(name + "woken " + t, x.woken(t, 0), plain.woken(t, 0));
-        due.is(name + "woken " + t, x.woken(t, 1), plain.woken(t, 1));
-        failures[x.ticket(t, 3)]++;
-        states[x.ticket(t, 0)]++;
+        cutShort += plain.count(5) > turns * 2 ? 1 : 0;
     }
 }
