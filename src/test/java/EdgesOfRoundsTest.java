@@ -200,6 +200,10 @@ public final class EdgesOfRoundsTest {
         submitAll(x, 4, 1);
         x.run(1);
         due.is("one that failed changes no version", x.ticket(9, 6), 1);
+        Ops.steps(x, 5, Ops.WRITE, 2, 0);
+        submitAll(x, 0, 5, 1);
+        x.run(1);
+        due.is("not only by the effect just ahead of it", x.ticket(12, 6), 2);
     }
 
     private static void upToTwoClashes() {
@@ -287,6 +291,15 @@ public final class EdgesOfRoundsTest {
         due.is("one that fails is not broken", x.ticket(t, 0), Ops.FAILED);
         t = Ops.playSteps(x, Ops.PUT, 9, 0, Ops.WRITE, 1, 0);
         due.is("one that mends it", x.ticket(t, 0), Ops.DONE);
+        SeedExchange y = new SeedExchange();
+        y.window(2);
+        y.rule(1, 0, 1, 0);
+        Ops.steps(y, 0, Ops.PUT, 5, 0, Ops.WRITE, 0, 0);
+        Ops.steps(y, 1, Ops.PUT, 4, 0, Ops.WRITE, 1, 0);
+        submitAll(y, 0, 1);
+        y.run(1);
+        due.is("the first of the round", y.ticket(0, 0), Ops.DONE);
+        due.is("the other, with what the first has written", y.ticket(1, 0), Ops.BROKEN);
     }
 
     /** A ticket of trade 1, which waits on cell 0, that had its fourth turn and is ready again. */
@@ -344,6 +357,14 @@ public final class EdgesOfRoundsTest {
         due.is("history", x.history(0, 0), t);
         due.is("it wakes", x.ticket(0, 0), Ops.READY);
         due.is("not written", x.cell(1, 0), 1);
+        SeedExchange y = new SeedExchange();
+        y.window(2);
+        Ops.steps(y, 0, Ops.PUT, 5, 0, Ops.WRITE, 0, 0);
+        Ops.steps(y, 1, Ops.PUT, 6, 0, Ops.WRITE, 1, 0);
+        submitAll(y, 0, 1);
+        due.is("both of one round", y.run(1), 2);
+        due.is("what the later one has not written stays", y.value(0), 5);
+        due.is("what it has written", y.value(1), 6);
     }
 
     private static void fortyNotes() {

@@ -125,6 +125,13 @@ public final class EdgesOfStepsTest {
         x.number(2, 2);
         t = Ops.playSteps(x, Ops.SWAP, 2, 3, Ops.READ, 3, 0);
         due.is("a swap looks at both", x.tried(t, 1), 2);
+        t = Ops.playSteps(x, Ops.WRITE, 2, 0, Ops.SWAP, 2, 3, Ops.SWAP, 3, 4);
+        due.is("a swap of a cell that was written", x.read(t, 2), 0);
+        due.is("a swap of cells that were not", x.read(t, 3) + x.read(t, 4), 2);
+        x.lot(5, 0, 0, 1);
+        x.lot(6, 0, 0, 1);
+        t = Ops.playSteps(x, Ops.SWAP, 5, 7, Ops.GIVE, 7, 6, Ops.GIVE, 7, 6);
+        due.is("give looks at both", x.read(t, 5) + x.read(t, 6) + x.read(t, 7), 3);
     }
 
     private static void put() {
@@ -308,9 +315,13 @@ public final class EdgesOfStepsTest {
         due.is("to itself, its grams", x.value(0), 10);
         t = give(x, 10, 39, 10, 20);
         due.is("a lot of 0 grams is one", x.holds(0), 2);
+        due.is("both", x.tried(t, 2), 2);
         due.is("its kind", x.cell(0, 2), 3);
         due.is("its grower", x.cell(0, 3), 1);
         due.is("the grower of b", x.cell(39, 3), 2);
+        t = Ops.playSteps(x, Ops.WRITE, 8, 0, Ops.GIVE, 0, 39, Ops.SWAP, 9, 10);
+        due.is("and what was written ahead of it", x.tried(t, 2), 5);
+        due.is("and what was written ahead of it", x.holds(8), 1);
     }
 
     private static void lackOfA() {

@@ -420,11 +420,24 @@ public final class EdgesOfTicketsTest {
         }
     }
 
-    /** The digest of forty cells that hold nothing and were never told. */
+    /** The digest with the cells from that one on, which hold nothing and were never told. */
+    private static long withoutMore(int from, long digest) {
+        long h = digest;
+        for (int c = from; c < 40; c++) {
+            h = behind(h, 0, 0, 0, -1, -1, -1);
+        }
+        return h;
+    }
+
     private static long ofNothing() {
-        long h = 17;
-        for (int c = 0; c < 40; c++) {
-            h = ((h * 31 * 31 * 31 * 31 - 1) * 31 - 1) * 31 - 1;
+        return withoutMore(0, 17);
+    }
+
+    /** The digest with so many numbers more. */
+    private static long behind(long digest, long... numbers) {
+        long h = digest;
+        for (long v : numbers) {
+            h = 31 * h + v;
         }
         return h;
     }
@@ -433,24 +446,29 @@ public final class EdgesOfTicketsTest {
         SeedExchange x = new SeedExchange();
         due.is("empty", x.digest(), ofNothing());
         x.submit(3);
-        long h = ofNothing();
-        long[] ticket = {0, 3, 0, 0, 0, -1, 0, 0, 0, 0, 0, 0, 0, 0};
-        for (long v : ticket) {
-            h = 31 * h + v;
-        }
-        due.is("one ready ticket", x.digest(), h);
+        due.is("one ready ticket", x.digest(), behind(ofNothing(), 0, 3, 0, 0, 0, -1, 0, 0, 0, 0, 0, 0, 0, 0));
         x.run(1);
-        h = ofNothing();
-        long[] done = {1, 3, 1, 0, 0, -1, 0, 0, 0, 0, 0, 0, 0, 0, 0};
-        for (long v : done) {
-            h = 31 * h + v;
-        }
-        due.is("one ticket that is done, and the order", x.digest(), h);
+        long tickets = behind(ofNothing(), 1, 3, 1, 0, 0, -1, 0, 0, 0, 0, 0, 0, 0, 0);
+        due.is("one that is done", x.digest(), behind(tickets, 0));
         x.clash(3, 5);
         x.rule(0, 0, 0, 0);
         x.step(3, Ops.PUT, 0, 0);
         x.window(4);
-        due.is("of what is not told in it", x.digest(), h);
+        due.is("of what is not told in it", x.digest(), behind(tickets, 0));
+        Ops.playSteps(x, Ops.FAIL, 5, 0);
+        tickets = behind(tickets, 2, 0, 1, Ops.TOLD, 5, -1, 0, 0, 0, 0, 0, 0, 0, 0);
+        due.is("one that failed", x.digest(), behind(tickets, 0));
+        x.drop(0);
+        for (int i = 1; i <= 9; i++) {
+            Ops.steps(x, 0, Ops.PUT, i, 0, Ops.SAY, 0, 0);
+        }
+        Ops.play(x, 0);
+        tickets = behind(tickets, 1, 0, 1, 0, 0, -1, 1, 2, 3, 4, 5, 6, 7, 8);
+        due.is("one with answers, and the order", x.digest(), behind(tickets, 0, 2));
+        x.rule(2, 0, 0, 1);
+        Ops.play(x, 2);
+        tickets = behind(tickets, 4, 2, 1, 0, 0, 1, 0, 0, 0, 0, 0, 0, 0, 0);
+        due.is("one that is broken", x.digest(), behind(tickets, 0, 2));
     }
 
     private static void digestWraps() {
@@ -458,15 +476,7 @@ public final class EdgesOfTicketsTest {
         for (long v : numbers) {
             SeedExchange x = new SeedExchange();
             x.number(0, v);
-            long h = 17;
-            long[] cell = {1, v, 1, -1, -1, -1};
-            for (long of : cell) {
-                h = 31 * h + of;
-            }
-            for (int c = 1; c < 40; c++) {
-                h = ((h * 31 * 31 * 31 * 31 - 1) * 31 - 1) * 31 - 1;
-            }
-            due.is("number " + v, x.digest(), h);
+            due.is("number " + v, x.digest(), withoutMore(1, behind(17, 1, v, 1, -1, -1, -1)));
         }
     }
 }

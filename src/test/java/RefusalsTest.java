@@ -203,7 +203,8 @@ public final class RefusalsTest {
             isBad("clash of trade " + trade, x -> x.clash(trade, 1));
         }
         for (int many : beyond(10)) {
-            isBad("clash, many " + many, x -> x.clash(0, many));
+            isBad("clash of trade 0, many " + many, x -> x.clash(0, many));
+            isBad("clash of trade 4, many " + many, x -> x.clash(4, many));
         }
     }
 

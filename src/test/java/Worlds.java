@@ -63,6 +63,7 @@ final class Worlds {
         }
         x.run(14);
         x.window(4);
+        x.clash(4, 2);
         Ops.steps(x, 1, Ops.READ, 0, 0, Ops.WAIT, 0, 0);
     }
 }
