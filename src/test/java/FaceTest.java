@@ -28,6 +28,7 @@ public final class FaceTest {
         constants();
         members();
         wordsLeftOut();
+        boundsOfTheLanguage();
         due.end();
     }
 
@@ -89,6 +90,30 @@ public final class FaceTest {
         String code = source.replaceAll("(?s)/\\*.*?\\*/", "").replaceAll("//[^\n]*", "");
         for (String pattern : LEFT_OUT) {
             due.is("left out: " + pattern, Pattern.compile(pattern).matcher(code).find() ? 1 : 0, 0);
+        }
+    }
+
+    /** Rules 5 and 11: static fields are final; few classes, fields and parameters. */
+    private static void boundsOfTheLanguage() {
+        Class<?>[] inside = SeedExchange.class.getDeclaredClasses();
+        due.is("twelve classes at most: " + inside.length, inside.length <= 11 ? 1 : 0, 1);
+        boundsOf(SeedExchange.class);
+        for (Class<?> type : inside) {
+            boundsOf(type);
+        }
+    }
+
+    private static void boundsOf(Class<?> type) {
+        int fields = 0;
+        for (Field field : type.getDeclaredFields()) {
+            int modifiers = field.getModifiers();
+            boolean changing = Modifier.isStatic(modifiers) && !Modifier.isFinal(modifiers);
+            due.is("final: " + field, changing ? 1 : 0, 0);
+            fields += Modifier.isStatic(modifiers) ? 0 : 1;
+        }
+        due.is("fields of " + type.getName() + ": " + fields, fields <= 20 ? 1 : 0, 1);
+        for (Method method : type.getDeclaredMethods()) {
+            due.is("parameters: " + method, method.getParameterCount() <= 7 ? 1 : 0, 1);
         }
     }
 }
